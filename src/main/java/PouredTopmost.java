@@ -682,8 +682,6 @@ public final class PouredTopmost {
                 return false;
             }
             kinds[size] = GLASS;
-            holds[size] = 0;
-            takes[size] = 0;
             shareCounts[size] = 0;
             size++;
             return true;

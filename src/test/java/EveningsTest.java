@@ -146,7 +146,7 @@ public final class EveningsTest {
         Check.due("the least", one.alike(6), 1);
     }
 
-    /** It is of the tower when it is empty; so late as 974 measures are looked at. */
+    /** It is of the tower when it is empty; up to 999 measures are looked at. */
     private static void alikeFromEmpty() {
         PouredTopmost x = Check.standing("1:12/2/2");
         x.pour(1, 1);
@@ -160,6 +160,12 @@ public final class EveningsTest {
         Check.due("needs more than 999", last.alike(160), Check.NONE);
         PouredTopmost latest = Check.standing("9:1--/9:2--/9:3--/9:4--/1:5-/c2");
         Check.due("9, 27, 81, 243, 81 and 162", latest.alike(48), 603);
+        PouredTopmost z = Check.standing("9:16-/9:2--/2:3--/2:4--/2:5--/9/3");
+        Check.due("9, 27, 18, 54, 162 and 729", z.alike(96), 999);
+        PouredTopmost more = Check.standing("1:15-/9:2--/9:3--/9:4--/9/8");
+        Check.due("1, 27, 81, 243 and 648", more.alike(48), Check.NONE);
+        PouredTopmost thirds = Check.standing("k1:12-/1:3/3/1");
+        Check.due("a measure spilt in three goes on", thirds.alike(10), 6);
     }
 
     private static void alikeRefused() {
@@ -194,6 +200,9 @@ public final class EveningsTest {
         // As above: 0 gets one and 1 is emptied, 2 stays.
         Check.due("full", x.pourings(1, 0, 0), 2);
         Check.due("nothing", x.pourings(1, 0, 1), 1);
+        PouredTopmost large = Check.standing("2/2/2");
+        Check.due("a measure is not two", large.pourings(1, 0, 0), 0);
+        Check.due("nothing in two", large.pourings(1, 0, 1), 2);
         PouredTopmost corks = Check.standing("k1/s1/c1");
         Check.due("full, with nothing", corks.pourings(60, 3, 0), 3);
         Check.due("nothing, and full", corks.pourings(60, 3, 1), 3);

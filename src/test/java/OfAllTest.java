@@ -7,6 +7,7 @@ public final class OfAllTest {
         counts();
         digestOfNothing();
         digestOfATower();
+        digestOfNeed();
         digestOfManyPoured();
         Check.end();
     }
@@ -132,6 +133,17 @@ public final class OfAllTest {
             0, 2, 2, 1, 1, -1, -1, 0, 1, 2, 1, 0, 1,
             0, 3, 3, 0, -1, -1, -1, 0, 0, 1, 1, 0, 1,
             0, 1, 3, 1, 2, 512 + 2, 2, 3, 1, 0, 1, 0));
+    }
+
+    /** NEEDALL is of all glasses, from the topmost. */
+    private static void digestOfNeed() {
+        PouredTopmost x = Check.standing("3:1-/2");
+        x.pour(0, 7);
+        x.drink(0);
+        Check.due("0 is emptied", x.digest(), hash(
+            0, 3, 3, 2, 1, 9, -1, 0, 0, 0, 1, 3, 1,
+            0, 2, 2, 0, -1, -1, -1, 0, 1, 2, 1, 0, 1,
+            2, 1, 2, 1, 3, 0, 2, 7, 1, 0, 1, 0));
     }
 
     /** Of more than 999 measures poured, 999 are looked at for the chips. */

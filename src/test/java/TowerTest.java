@@ -207,7 +207,7 @@ public final class TowerTest {
     }
 
     private static void anotherTower() {
-        PouredTopmost x = Check.standing("2:1/3:22-/l1:-");
+        PouredTopmost x = Check.standing("c2:1/l3:22-/l1:-");
         x.pour(0, 9);
         x.drink(1);
         x.turn(1, 4);
@@ -220,6 +220,9 @@ public final class TowerTest {
         Check.due("towers", x.count(4), 2);
         Check.due("changes stay", x.count(5), 1);
         Check.due("turn", x.about(1, 7), 0);
+        Check.due("kind is the new one's", x.about(0, 0), 0);
+        Check.due("kind is the new one's", x.about(1, 0), 0);
+        Check.due("takes", x.about(0, 2), 5);
         Check.due("shares are the new one's", x.about(1, 3), 0);
         Check.due("share", x.about(1, 4), Check.NONE);
         Check.inGlass(x, 0, 0, 1);
