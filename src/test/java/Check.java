@@ -9,14 +9,21 @@ final class Check {
     static final int FULL = PouredTopmost.FULL;
 
     private static int wrong = 0;
+    private static String sentence = "";
 
     private Check() {
+    }
+
+    /** The words of the document that the checks behind it hold the class to. */
+    static void says(String words) {
+        sentence = words;
     }
 
     static void due(String what, long got, long want) {
         if (got != want) {
             wrong++;
-            System.out.println(what + ": answered " + got + ", due is " + want);
+            String told = sentence.isEmpty() ? "" : "\"" + sentence + "\": ";
+            System.out.println(told + what + ": answered " + got + ", due is " + want);
         }
     }
 
@@ -49,10 +56,16 @@ final class Check {
         return answer;
     }
 
-    /** A new object with this tower. */
-    static PouredTopmost standing(String text) {
+    /** A new object with this page. */
+    static PouredTopmost written(String text) {
         PouredTopmost x = new PouredTopmost();
         write(x, text);
+        return x;
+    }
+
+    /** A new object with this tower. */
+    static PouredTopmost standing(String text) {
+        PouredTopmost x = written(text);
         isTrue("tower " + text, x.tower() > 0);
         return x;
     }
@@ -78,6 +91,15 @@ final class Check {
         long before = x.digest();
         due(what, call.answer(), want);
         due(what + " changes nothing", x.digest(), before);
+    }
+
+    /** The number that the document makes of others, in their order. */
+    static long hash(long... numbers) {
+        long h = 631;
+        for (long number : numbers) {
+            h = 31 * h + number;
+        }
+        return h;
     }
 
     static void end() {
